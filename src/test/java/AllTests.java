@@ -1,0 +1,20 @@
+/** Runs every test of the project; the one argument is the path of HullKeepers.java. */
+public final class AllTests {
+    private AllTests() {
+    }
+
+    public static void main(String[] args) throws Exception {
+        ShipsTest.run();
+        MonthsTest.run();
+        ReadingsTest.run();
+        TextsTest.run();
+        FleetTest.run();
+        FindingTest.run();
+        ImagesTest.run();
+        AnyCallsTest.run();
+        LanguageTest.run(args.length > 0 ? args[0] : "src/main/java/HullKeepers.java");
+        if (!Check.sumUp()) {
+            System.exit(1);
+        }
+    }
+}
