@@ -448,7 +448,7 @@ public final class HullKeepers {
         }
 
         int get(int row, int column) {
-            if (row < 0 || row >= most || column < 0 || column >= columns) {
+            if (row < 0 || row >= rows || column < 0 || column >= columns) {
                 return 0;
             }
             return cells[row * columns + column];
@@ -1205,7 +1205,8 @@ public final class HullKeepers {
             years = 0;
             letGo = 0;
             dockings = 0;
-            for (int i = 0; i < house.hulls.rows; i++) {
+            int many = Math.min(house.hulls.rows, MOST_HULLS);
+            for (int i = 0; i < many; i++) {
                 years += Math.min(YEARS, floatsTill(i, state));
                 dockings += timesDocked(i, state);
                 if (floatsTill(i, state) < YEARS) {

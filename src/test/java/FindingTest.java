@@ -61,6 +61,12 @@ final class FindingTest {
         x.test(0, true);
         Check.due("a wet test of nothing", x.leaks(0), HullKeepers.NONE);
         Check.due("no rivals of none", x.leaks(1), HullKeepers.NONE);
+        x.drain();
+        for (int i = 0; i < 12; i++) {
+            x.test(1 << i, true);
+        }
+        Check.due("all places", x.leaks(0), 4095);
+        Check.due("all places: no rival", x.leaks(1), 0);
     }
 
     private static void tows() {
@@ -83,6 +89,7 @@ final class FindingTest {
         Check.due("just ahead of the wave", x.tow(10, 49, 0), 0);
         Check.due("behind the wave", x.tow(11, 49, 0), 11);
         Check.due("behind the wave", x.tow(10, 49, 1), 11);
+        Check.due("no strength", x.tow(10, 0, 1), 11);
         Check.due("not above", x.tow(11, 50, 0), 0);
         Check.due("the last days", x.tow(30, 50, 60), 60);
         Check.due("past the last day", x.tow(30, 50, 61), HullKeepers.NONE);
@@ -139,6 +146,14 @@ final class FindingTest {
         x.hand(2, 2);
         Check.due("hours in parts", x.done(0), 5);
         Check.due("worth", x.done(1), 8);
+        HullKeepers y = new HullKeepers();
+        y.hand(31, 4);
+        for (int trade = 0; trade < 5; trade++) {
+            y.work(trade, 1, 1);
+        }
+        Check.due("one hand for all trades, an hour short", y.done(0), 15);
+        y.hand(16, 1);
+        Check.due("and no more", y.done(0), 31);
     }
 
     private static void randomLeaks() {

@@ -39,6 +39,8 @@ final class FleetTest {
         Check.due("bad", x.docks(0, 1001), HullKeepers.BAD);
         x.hull(5, 5, 100);
         Check.due("as at first", x.plan(-1), 10);
+        Check.due("no income", x.docks(1, 0), 1);
+        Check.due("no income, no docking", x.plan(-1), 5);
         Check.due("docks", x.docks(0, 1000), 1);
         Check.due("no dock", x.plan(-1), 5);
         Check.due("docks", x.docks(3, 19), 1);

@@ -135,6 +135,13 @@ final class ReadingsTest {
         Check.due("no wear, but below", x.due(2, 5), 5);
         x.bound(0);
         Check.due("nothing is below 0", x.due(2, 5), HullKeepers.NONE);
+        x.bound(1);
+        x.wear(2, 50);
+        Check.due("0 is below 1", x.due(2, 5), 11);
+        x.reading(1, 3, 0, -1, 3);
+        Check.due("below 0 is 0", x.due(1, 3), 3);
+        x.bound(0);
+        Check.due("a number below 0 is not below a bound of 0", x.due(1, 3), HullKeepers.NONE);
     }
 
     private static void firsts() {

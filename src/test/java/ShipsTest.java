@@ -44,8 +44,15 @@ final class ShipsTest {
         // docks and income at first: one dock, 100 a year
         x.hull(9, 1, 100);
         x.hull(9, 1, 100);
-        Check.due("plan(0) of one dock", x.plan(-1), 20);
-        Check.due("plan(0)", x.plan(0), 0);
+        Check.due("two ships that need one docking each", x.plan(-1), 20);
+        Check.due("one in the last year that floats", x.plan(8), 2);
+        Check.due("the other ahead of it, for there is one dock", x.plan(7), 1);
+        HullKeepers y = new HullKeepers();
+        y.hull(1, 9, 100);
+        Check.due("an income of 100", y.plan(-1), 10);
+        y.clear();
+        y.hull(1, 9, 101);
+        Check.due("and no more", y.plan(-1), 1);
     }
 
     private static void ships() {
@@ -119,6 +126,11 @@ final class ShipsTest {
         Check.due("nor counts it", x.about(0, 4), 1000);
         x.replace(0, 400);
         Check.due("cut", x.about(0, 4), 571);
+        x.ship(10, 100, 1, 0);
+        x.plate(2, 0, 400, 1, 0);
+        Check.due("the least mass", x.lay(2), 1);
+        Check.due("the least mass, twice", x.lay(2), HullKeepers.NO);
+        Check.due("of the least mass", x.about(2, 4), 1000);
     }
 
     private static void settings() {
@@ -149,6 +161,8 @@ final class ShipsTest {
         Check.due("crowd bad", x.crowd(-1, 0), HullKeepers.BAD);
         Check.due("crowd", x.crowd(0, 20000), 0);
         Check.due("crowd", x.crowd(0, 5), 20000);
+        Check.due("crowd", x.crowd(0, 0), 5);
+        Check.due("crowd", x.crowd(0, 1), 0);
         Check.promise(9);
         Check.due("storm", x.storm(599, 100000), 0);
         Check.due("storm", x.storm(599, 0), 100000);
@@ -204,6 +218,7 @@ final class ShipsTest {
         Check.due("bad", x.replace(0, 0), HullKeepers.BAD);
         Check.due("bad", x.replace(0, 5001), HullKeepers.BAD);
         Check.due("bad", x.replace(-1, 1), HullKeepers.BAD);
+        Check.due("replaced by the least", x.replace(0, 1), 1);
         Check.due("replaced", x.replace(0, 5000), 1);
         int[] due = {0, 2, 5000, 7, 1, 0};
         for (int what = 0; what <= 5; what++) {
