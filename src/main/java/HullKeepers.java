@@ -670,11 +670,11 @@ public final class HullKeepers {
             for (int s = 0; s < ships.rows; s++) {
                 if (floats(s)) {
                     int water = ships.get(s, WATER) + leaksAfter(s, 1) + sea;
-                    int pumped = pumped(s, water, wireLeft);
-                    wireLeft -= pumped;
-                    ships.put(s, WATER, water - pumped);
+                    int taken = pumped(s, water, wireLeft);
+                    wireLeft -= taken;
+                    ships.put(s, WATER, water - taken);
                     wearPlates(s);
-                    if (sinksWith(s, water - pumped)) {
+                    if (sinksWith(s, water - taken)) {
                         ships.put(s, SANK, 1);
                         sunk++;
                     }
@@ -1035,9 +1035,9 @@ public final class HullKeepers {
             for (int s = 0; s < many; s++) {
                 if (sank[s] == 0) {
                     int full = water[s] + leaks[i * MOST_SHIPS + s] + sea;
-                    int pumped = house.pumped(s, full, wireLeft);
-                    wireLeft -= pumped;
-                    water[s] = full - pumped;
+                    int taken = house.pumped(s, full, wireLeft);
+                    wireLeft -= taken;
+                    water[s] = full - taken;
                     if (house.sinksWith(s, water[s])) {
                         sank[s] = 1;
                         sunk++;
@@ -1153,8 +1153,8 @@ public final class HullKeepers {
             return left;
         }
 
-        private boolean mayDock(int set, int dockable, int left) {
-            return (set & ~dockable) == 0 && Integer.bitCount(set) <= house.docks && coins[set] <= left;
+        private boolean mayDock(int set, int ready, int left) {
+            return (set & ~ready) == 0 && Integer.bitCount(set) <= house.docks && coins[set] <= left;
         }
 
         /** The most that can come of a state; as deep as there are years. */
@@ -1167,25 +1167,29 @@ public final class HullKeepers {
                 return 0;
             }
             if (bests[at] == UNKNOWN) {
-                int dockable = dockable(year, state);
-                int left = coinLeft(year, state);
-                int most = UNKNOWN;
-                for (int set = 0; set < SETS; set++) {
-                    if (mayDock(set, dockable, left)) {
-                        most = Math.max(most, best(year + 1, state + steps[set]));
-                    }
-                }
-                bests[at] = most;
+                bests[at] = workedOut(year, state);
             }
             return bests[at];
         }
 
+        private int workedOut(int year, int state) {
+            int ready = dockable(year, state);
+            int left = coinLeft(year, state);
+            int most = 0;
+            for (int set = 0; set < SETS; set++) {
+                if (mayDock(set, ready, left)) {
+                    most = Math.max(most, best(year + 1, state + steps[set]));
+                }
+            }
+            return most;
+        }
+
         private int leastBest(int year, int state) {
             int most = best(year, state);
-            int dockable = dockable(year, state);
+            int ready = dockable(year, state);
             int left = coinLeft(year, state);
             for (int set = 0; set < SETS; set++) {
-                if (mayDock(set, dockable, left) && best(year + 1, state + steps[set]) == most) {
+                if (mayDock(set, ready, left) && best(year + 1, state + steps[set]) == most) {
                     return set;
                 }
             }
