@@ -31,7 +31,7 @@ public final class HullKeepers {
         kept = new int[IMAGES];
         reader = new Reader(house);
         storms = new Storms();
-        planner = new Planner();
+        planner = new Planner(house);
         leakFinder = new LeakFinder();
         crew = new Crew();
     }
@@ -281,7 +281,7 @@ public final class HullKeepers {
         if (!within(what, NONE, Planner.DOCKINGS)) {
             return BAD;
         }
-        planner.make(house);
+        planner.make();
         return planner.at(what);
     }
 
@@ -434,9 +434,9 @@ public final class HullKeepers {
         int rows;
 
         Table(int mostRows, int columnsOfRow) {
-            most = mostRows;
-            columns = columnsOfRow;
-            cells = new int[mostRows * columnsOfRow];
+            most = Math.max(0, mostRows);
+            columns = Math.max(0, columnsOfRow);
+            cells = new int[most * columns];
         }
 
         boolean has(int row) {
@@ -1060,10 +1060,14 @@ public final class HullKeepers {
         private final int[] steps = new int[SETS];
         private final int[] coins = new int[SETS];
         private final int[] chosen = new int[YEARS];
-        private int[] bests;
+        private final House house;
+        private int[] bests = new int[0];
         private int states, years, letGo, dockings;
         private boolean isMade;
-        private House house;
+
+        Planner(House houseOfHulls) {
+            house = houseOfHulls;
+        }
 
         void forget() {
             isMade = false;
@@ -1079,17 +1083,17 @@ public final class HullKeepers {
             return what >= 0 && what < YEARS ? chosen[what] : years;
         }
 
-        void make(House ofHouse) {
+        void make() {
             if (isMade) {
                 return;
             }
             isMade = true;
-            house = ofHouse;
             layOut();
-            if (bests == null) {
+            // the row is large: only who asks for a plan has one
+            if (bests.length == 0) {
                 bests = new int[YEARS * MOST_STATES];
             }
-            Arrays.fill(bests, 0, YEARS * states, UNKNOWN);
+            Arrays.fill(bests, 0, Math.max(0, Math.min(YEARS * states, bests.length)), UNKNOWN);
             int state = 0;
             for (int year = 0; year < YEARS; year++) {
                 chosen[year] = leastBest(year, state);

@@ -11,6 +11,9 @@ public final class AllTests {
         FleetTest.run();
         FindingTest.run();
         ImagesTest.run();
+        RangesTest.run();
+        RefusalsTest.run();
+        ShipEdgesTest.run();
         AnyCallsTest.run();
         LanguageTest.run(args.length > 0 ? args[0] : "src/main/java/HullKeepers.java");
         if (!Check.sumUp()) {

@@ -3,6 +3,8 @@ import java.util.Random;
 /** Any calls in any order: none throws, the same calls answer alike, and what is refused changes nothing. */
 final class AnyCallsTest {
     private static final int CALLS = 43, LIMIT = 512;
+    // each step asks the digest twice beside its call
+    private static final int STEPS = LIMIT / 3 - 1;
     private static final int[] ODD = {Integer.MIN_VALUE, Integer.MAX_VALUE, -1, -2, 0, 1, 2, 3, 59, 60, 61, 100, 599,
         600, 5000};
 
@@ -11,7 +13,7 @@ final class AnyCallsTest {
 
     static void run() {
         Check.promise(0);
-        for (int seed = 0; seed < 400; seed++) {
+        for (int seed = 0; seed < 600; seed++) {
             anyCalls(seed, seed % 2 == 0 ? 10 : 70);
         }
     }
@@ -20,7 +22,7 @@ final class AnyCallsTest {
         Random random = new Random(seed);
         HullKeepers x = new HullKeepers();
         HullKeepers twin = new HullKeepers();
-        for (int i = 0; i < LIMIT / 2; i++) {
+        for (int i = 0; i < STEPS; i++) {
             int which = random.nextInt(CALLS);
             int[] a = new int[5];
             for (int j = 0; j < 5; j++) {

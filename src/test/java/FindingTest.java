@@ -194,7 +194,11 @@ final class FindingTest {
         Random random = new Random(35);
         HullKeepers x = new HullKeepers();
         int[] waves = new int[90];
-        for (int run = 0; run < 2000; run++) {
+        for (int run = 0; run < 2500; run++) {
+            if (run % 250 == 0) {
+                x = new HullKeepers();
+                waves = new int[90];
+            }
             int day = random.nextInt(90);
             int v = random.nextInt(101);
             Check.due("wave", x.wave(day, v), waves[day]);

@@ -52,7 +52,7 @@ final class ImagesTest {
             h = 31 * h + x.plan(what);
         }
         for (int p = 0; p < x.count(1); p++) {
-            for (int k = 0; k < 20; k += 5) {
+            for (int k = 0; k < 20; k += 9) {
                 h = 31 * h + x.guess(p, 19, k);
                 h = 31 * h + x.due(p, k);
             }
@@ -60,7 +60,7 @@ final class ImagesTest {
                 h = 31 * h + x.tells(t, p);
             }
         }
-        for (int from = 0; from < 90; from += 7) {
+        for (int from = 0; from < 90; from += 15) {
             h = 31 * h + x.tow(4, 50, from);
         }
         for (int what = 0; what <= 1; what++) {

@@ -114,11 +114,11 @@ final class MonthsTest {
 
     private static void againstModel() {
         Random random = new Random(39);
-        for (int run = 0; run < 150; run++) {
+        for (int run = 0; run < 600; run++) {
             HullKeepers x = new HullKeepers();
             Model m = new Model();
             fill(x, m, random);
-            for (int step = 0; step < 12; step++) {
+            for (int step = 0; step < 3; step++) {
                 int month = Math.min(599, m.now + random.nextInt(6));
                 int sea = random.nextInt(3) == 0 ? 0 : random.nextInt(3000);
                 x.storm(month, sea);

@@ -167,14 +167,44 @@ final class ReadingsTest {
 
     private static void againstModel() {
         Random random = new Random(20);
-        for (int run = 0; run < 60; run++) {
-            HullKeepers x = withPlates(3);
+        for (int run = 0; run < 300; run++) {
+            Model m = new Model(random);
+            for (int k = run % 31; k < 62; k += 31) {
+                sameAsKnown(m, k);
+            }
+        }
+    }
+
+    private static void sameAsKnown(Model m, int k) {
+        int firstPlate = -1;
+        int firstMonth = 1000;
+        for (int p = 0; p < 3; p++) {
+            Check.promise(18);
+            for (int month = 0; month < 60; month++) {
+                Check.due("guess", m.x.guess(p, month, k), m.guess(p, month, k)[0]);
+            }
+            int due = m.due(p, k);
+            Check.promise(19);
+            Check.due("due", m.x.due(p, k), due);
+            if (due >= 0 && due < firstMonth) {
+                firstMonth = due;
+                firstPlate = p;
+            }
+        }
+        Check.promise(20);
+        Check.due("first", m.x.first(0, k), firstPlate);
+    }
+
+    /** Readings and gauges at random, told to an object and kept here in the plainest way. */
+    private static final class Model {
+        final HullKeepers x = withPlates(3);
+        final int[] wears = {1, 4, 2}, biases = new int[4], rights = new int[4];
+        final int[] rightKnown = {1000, 1000, 1000, 1000};
+        final List<int[]> told = new ArrayList<>();
+        final int bound;
+
+        Model(Random random) {
             x.months(40);
-            int[] wears = {1, 4, 2};
-            int[] biases = new int[4];
-            int[] rights = new int[4];
-            int[] rightKnown = {1000, 1000, 1000, 1000};
-            List<int[]> told = new ArrayList<>();
             for (int i = 0; i < 30; i++) {
                 int month = random.nextInt(41);
                 int[] r = {random.nextInt(3), month, random.nextInt(4), random.nextInt(900), month + random.nextInt(20)};
@@ -190,48 +220,31 @@ final class ReadingsTest {
                     x.right(g, rights[g], rightKnown[g]);
                 }
             }
-            int bound = random.nextInt(400);
+            bound = random.nextInt(400);
             x.bound(bound);
-            for (int k = 0; k < 62; k += 3) {
-                int firstPlate = -1;
-                int firstMonth = 1000;
-                for (int p = 0; p < 3; p++) {
-                    int due = -1;
-                    int[] last = guess(told, p, 599, k, wears, biases, rights, rightKnown);
-                    for (int m = 599; m >= 0; m--) {
-                        int[] guess = guess(told, p, m, k, wears, biases, rights, rightKnown);
-                        if (m < 60) {
-                            Check.promise(18);
-                            Check.due("guess", x.guess(p, m, k), guess[0]);
-                        }
-                        if (last[1] >= 0 && m >= last[1] && guess[0] < bound) {
-                            due = m;
-                        }
-                    }
-                    Check.promise(19);
-                    Check.due("due", x.due(p, k), due);
-                    if (due >= 0 && due < firstMonth) {
-                        firstMonth = due;
-                        firstPlate = p;
-                    }
-                }
-                Check.promise(20);
-                Check.due("first", x.first(0, k), firstPlate);
-            }
         }
-    }
 
-    /** The guess, and the month of its reading. */
-    private static int[] guess(List<int[]> told, int plate, int month, int k, int[] wears, int[] biases,
-            int[] rights, int[] rightKnown) {
-        int[] answer = {-1, -1};
-        for (int[] r : told) {
-            if (r[0] == plate && r[1] <= month && r[1] >= answer[1] && r[4] <= k) {
-                int bias = rightKnown[r[2]] <= k ? rights[r[2]] : biases[r[2]];
-                answer[0] = Math.max(0, r[3] - bias - wears[plate % 3] * (month - r[1]));
-                answer[1] = r[1];
+        /** The guess, and the month of its reading. */
+        int[] guess(int plate, int month, int k) {
+            int[] answer = {-1, -1};
+            for (int[] r : told) {
+                if (r[0] == plate && r[1] <= month && r[1] >= answer[1] && r[4] <= k) {
+                    int bias = rightKnown[r[2]] <= k ? rights[r[2]] : biases[r[2]];
+                    answer[0] = Math.max(0, r[3] - bias - wears[plate % 3] * (month - r[1]));
+                    answer[1] = r[1];
+                }
             }
+            return answer;
         }
-        return answer;
+
+        int due(int plate, int k) {
+            int start = guess(plate, 599, k)[1];
+            for (int month = start; start >= 0 && month <= 599; month++) {
+                if (guess(plate, month, k)[0] < bound) {
+                    return month;
+                }
+            }
+            return -1;
+        }
     }
 }
