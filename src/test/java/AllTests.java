@@ -14,6 +14,12 @@ public final class AllTests {
         RangesTest.run();
         RefusalsTest.run();
         ShipEdgesTest.run();
+        MonthEdgesTest.run();
+        ReadingEdgesTest.run();
+        TextEdgesTest.run();
+        FleetEdgesTest.run();
+        FindingEdgesTest.run();
+        ImageEdgesTest.run();
         AnyCallsTest.run();
         LanguageTest.run(args.length > 0 ? args[0] : "src/main/java/HullKeepers.java");
         if (!Check.sumUp()) {

@@ -110,9 +110,12 @@ final class Houses {
         }
         docks(x, told);
         for (int i = 0; i <= 1; i++) {
-            told.add((long) x.from(i));
-            told.add(x.digest());
-            settings(x, told);
+            int goesOn = x.from(i);
+            told.add((long) goesOn);
+            if (goesOn == 1) {
+                told.add(x.digest());
+                settings(x, told);
+            }
         }
         return told;
     }
