@@ -15,7 +15,6 @@ public final class HullKeepers {
 
     private final House house;
     private final House[] images;
-    private final int[] kept;
     private final Reader reader;
     private final Storms storms;
     private final Planner planner;
@@ -25,10 +24,6 @@ public final class HullKeepers {
     public HullKeepers() {
         house = new House();
         images = new House[IMAGES];
-        for (int i = 0; i < IMAGES; i++) {
-            images[i] = new House();
-        }
-        kept = new int[IMAGES];
         reader = new Reader(house);
         storms = new Storms();
         planner = new Planner(house);
@@ -370,8 +365,13 @@ public final class HullKeepers {
         if (!within(i, 0, IMAGES - 1)) {
             return BAD;
         }
-        images[i].copyFrom(house);
-        kept[i] = 1;
+        House kept = images[i];
+        // a house is large: only an image that is kept has one, and has it for good
+        if (kept == null) {
+            kept = new House();
+            images[i] = kept;
+        }
+        kept.copyFrom(house);
         return 1;
     }
 
@@ -379,10 +379,11 @@ public final class HullKeepers {
         if (!within(i, 0, IMAGES - 1)) {
             return BAD;
         }
-        if (kept[i] == 0) {
+        House kept = images[i];
+        if (kept == null) {
             return NO;
         }
-        house.copyFrom(images[i]);
+        house.copyFrom(kept);
         planner.forget();
         return 1;
     }

@@ -1,4 +1,4 @@
-/** Runs every test of the project; the one argument is the path of HullKeepers.java. */
+/** Runs every test of the project; the arguments are the paths of HullKeepers.java and of README.md. */
 public final class AllTests {
     private AllTests() {
     }
@@ -21,7 +21,9 @@ public final class AllTests {
         FindingEdgesTest.run();
         ImageEdgesTest.run();
         AnyCallsTest.run();
+        PlainRunsTest.run();
         LanguageTest.run(args.length > 0 ? args[0] : "src/main/java/HullKeepers.java");
+        ReadmeTest.run(args.length > 1 ? args[1] : "README.md");
         if (!Check.sumUp()) {
             System.exit(1);
         }

@@ -251,7 +251,7 @@ final class FindingTest {
     }
 
     /** Gives hour by hour, each time moving hours that were given already where that makes room. */
-    private static boolean canDo(int[][] hands, int[][] works, int set) {
+    static boolean canDo(int[][] hands, int[][] works, int set) {
         int[][] given = new int[hands.length][5];
         int[] left = new int[hands.length];
         for (int i = 0; i < hands.length; i++) {

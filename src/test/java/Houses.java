@@ -16,6 +16,14 @@ final class Houses {
         x.ship(30, 120, 500, 0);
         x.ship(40, 140, 700, 9);
         x.image(0);
+        tellMuch(x);
+        x.image(1);
+        x.wave(6, 61);
+        return x;
+    }
+
+    /** Something of each kind but ships: 0 and 1 are there. */
+    static void tellMuch(HullKeepers x) {
         x.plate(0, 2, 280, 10, -5);
         x.plate(1, 1, 290, 20, -6);
         x.plate(0, 0, 400, 30, -7);
@@ -43,9 +51,6 @@ final class Houses {
         x.wave(5, 60);
         x.hand(3, 20);
         x.work(1, 15, 30);
-        x.image(1);
-        x.wave(6, 61);
-        return x;
     }
 
     /** As much of each kind as there may be. */

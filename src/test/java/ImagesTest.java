@@ -10,43 +10,17 @@ final class ImagesTest {
         digestOfEach();
     }
 
-    /** Something of all that can be told. */
-    static HullKeepers full() {
+    /** Something of each kind. */
+    private static HullKeepers much() {
         HullKeepers x = new HullKeepers();
         x.ship(20, 100, 300, 20);
         x.ship(30, 120, 500, 0);
-        x.plate(0, 2, 280, 10, -5);
-        x.plate(1, 1, 290, 20, -6);
-        x.plate(0, 0, 400, 30, -7);
-        x.lay(0);
-        x.crowd(1, 77);
-        x.storm(1, 40);
-        x.storm(30, 50);
-        x.wear(0, 3);
-        x.bound(350);
-        x.wire(900);
-        x.months(3);
-        x.reading(1, 2, 3, 290, 4);
-        x.reading(0, 3, 2, 280, 3);
-        x.bias(1, -5);
-        x.bias(2, 6);
-        x.right(2, 9, 10);
-        TextsTest.write(x, 1, "t<300");
-        TextsTest.write(x, 3, "!f");
-        x.charter(1, 3);
-        x.hull(5, 2, 100);
-        x.hull(3, 3, 50);
-        x.docks(2, 150);
-        x.test(7, true);
-        x.test(2, false);
-        x.wave(5, 60);
-        x.hand(3, 20);
-        x.work(1, 15, 30);
+        Houses.tellMuch(x);
         return x;
     }
 
     /** All that can be asked without a change, as one number. */
-    static long answers(HullKeepers x) {
+    private static long answers(HullKeepers x) {
         long h = x.digest();
         for (int what = -1; what <= 11; what++) {
             h = 31 * h + x.plan(what);
@@ -72,7 +46,7 @@ final class ImagesTest {
 
     private static void images() {
         Check.promise(40);
-        HullKeepers x = full();
+        HullKeepers x = much();
         Check.due("bad", x.image(2), HullKeepers.BAD);
         Check.due("bad", x.image(-1), HullKeepers.BAD);
         long before = answers(x);
@@ -88,7 +62,7 @@ final class ImagesTest {
         Check.due("image", x.image(1), 1);
         Check.due("from", x.from(0), 1);
         Check.due("all is back", answers(x), before);
-        settingsOf(full(), x);
+        settingsOf(much(), x);
         Check.due("from", x.from(0), 1);
         Check.due("from the other", x.from(1), 1);
         Check.due("all of the other", answers(x), after);
@@ -152,7 +126,7 @@ final class ImagesTest {
 
     private static void counts() {
         Check.promise(42);
-        HullKeepers x = full();
+        HullKeepers x = much();
         int[] due = {2, 3, 2, 2, 2, 1, 1, 3, 0};
         for (int what = 0; what < due.length; what++) {
             Check.due("count(" + what + ")", x.count(what), due[what]);
@@ -186,7 +160,7 @@ final class ImagesTest {
             mix(0);
         }
         Check.due("digest of a new object", new HullKeepers().digest(), h);
-        HullKeepers x = full();
+        HullKeepers x = much();
         h = 307;
         for (int what = 0; what <= 8; what++) {
             mix(x.count(what));
@@ -205,7 +179,7 @@ final class ImagesTest {
                 mix(x.plateAt(p, what));
             }
         }
-        int[] rest = {1, 2, 3, 290, 4, 0, 3, 2, 280, 3, 0, 0, -1, -5, 0, -1, 6, 9, 10, 0, 0, -1,
+        int[] rest = {1, 2, 3, 290, 4, 0, 3, 2, 380, 3, 0, 0, -1, -5, 0, -1, 6, 9, 10, 0, 0, -1,
             0, 5, 't', '<', '3', '0', '0', 0, 2, '!', 'f'};
         for (int v : rest) {
             mix(v);
@@ -215,7 +189,7 @@ final class ImagesTest {
 
     private static void digestOfEach() {
         Check.promise(43);
-        HullKeepers x = full();
+        HullKeepers x = much();
         long last = x.digest();
         x.wave(80, 3);
         x.docks(1, 1);

@@ -224,7 +224,7 @@ final class TextsTest {
     }
 
     /** What a scan over the signs says: where an operand or an operator must stand, with a stack of parentheses. */
-    private static int faultOf(String text) {
+    static int faultOf(String text) {
         boolean operand = true;
         boolean[] compared = new boolean[70];
         int open = 0;
@@ -331,7 +331,7 @@ final class TextsTest {
         return v;
     }
 
-    private static long worked(char operator, long v, long w) {
+    static long worked(char operator, long v, long w) {
         switch (operator) {
             case '|': return v != 0 || w != 0 ? 1 : 0;
             case '&': return v != 0 && w != 0 ? 1 : 0;
